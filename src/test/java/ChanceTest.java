@@ -52,7 +52,7 @@ public final class ChanceTest {
         c.due("drawn(" + n + ", " + seed + ", 1)", x.drawn(n, seed, 1), often);
     }
 
-    // From 1 the draws are 16807, 282475249, 1622650073.
+    // From 1 the draws are 16807, 282475249, 1622650073, 984943658, 1144108930, 470211272, 101027544.
     private static void draws() {
         c.part("promise 33");
         RabbitList x = Check.told("r0,0;p9,1,3;z9,1;");
@@ -67,6 +67,18 @@ public final class ChanceTest {
         run(x, 1, 1, 3, 0);
         run(Check.told("r0,0;f9,1,2;z9,5;z9,5;"), 1, 1, 4, 2);
         run(Check.told("r0,0;p9,1,2;"), 60, 999999, 0, 0);
+        c.part("promise 33, the one of draw 2 waits for 5 taps");
+        x = Check.told("r0,0;p4,1,3;z4,1;");
+        run(x, 6, 1, 3, 1);
+        run(x, 7, 1, 6, 2);
+        run(Check.told("r0,0;p8,1,3;z8,1;"), 7, 1, 3, 1);
+        run(Check.told("r0,0;p0,1,3;z0,1;"), 7, 1, 3, 1);
+        c.part("promise 33, nothing is brought back to a list that is not empty");
+        x = Check.told("r0,0;p7,1,3;p9,1,5;z9,9;");
+        x.off(1);
+        run(x, 1, 1, 0, 0);
+        x.off(0);
+        run(x, 1, 1, 5, 1);
         c.due("drawn(-1, ..)", x.drawn(-1, 1, 0), Check.BAD);
         c.due("drawn(61, ..)", x.drawn(61, 1, 0), Check.BAD);
         c.due("drawn(0, 0, 0)", x.drawn(0, 0, 0), Check.BAD);

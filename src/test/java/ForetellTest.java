@@ -194,6 +194,9 @@ public final class ForetellTest {
         x = Check.told("r0,0;f9,1,0;p9,1,0;z9,9;z9,9;z9,9;z0,9;");
         c.due("match(), flags and others", x.match(), 3);
         c.due("lack()", x.lack(), 1);
+        x = Check.told("r0,0;p0,1,0;h9,1,0;z9,9;z0,9;");
+        c.due("match(), label 0", x.match(), 1);
+        c.due("lack(), label 9", x.lack(), 512);
     }
 
     private static void clears() {
@@ -222,11 +225,11 @@ public final class ForetellTest {
         x.taps(1);
         c.due("clear(0, 1, 0), it has left", x.clear(0, 1, 0), Check.NONE);
         c.part("promise 26, fewer ahead of less");
-        // With thing 2 off seat 1 gets flags of label 1; the sets of less number need two.
-        x = Check.told("r0,0;p1,1,0;f1,1,0;p2,1,0;z2,9;z1,1;");
-        x.front(2);
-        c.due("clear(1, 1, 0)", x.clear(1, 1, 0), 1);
-        c.due("clear(1, 1, 1)", x.clear(1, 1, 1), 4);
+        // Things 0 and 1 together would do as well, and are the lesser number.
+        x = Check.told("r0,0;p1,1,0;p1,1,0;p2,1,0;p5,1,0;z1,9;z2,9;z5,2;");
+        c.due("clear(2, 2, 0)", x.clear(2, 2, 0), 1);
+        c.due("clear(2, 2, 1)", x.clear(2, 2, 1), 4);
+        c.due("clear(2, 3, 0), too late", x.clear(2, 3, 0), 1);
     }
 
     private static void brings() {
