@@ -29,7 +29,43 @@ public final class ModelTest {
                 step();
             }
         }
+        extremes();
         c.end();
+    }
+
+    // Every call with every choice of numbers at and beyond the edges of int and of what is told.
+    private static void extremes() {
+        int[] edges = {Integer.MIN_VALUE, -1, 0, 1, 12, Integer.MAX_VALUE};
+        for (String name : NAMES) {
+            int parameters = argumentsOf(name).length;
+            int choices = (int) Math.pow(edges.length, parameters);
+            calls = CALLS;
+            for (int choice = 0; choice < choices; choice++) {
+                if (calls >= CALLS - 2) {
+                    begin(name);
+                }
+                int[] a = new int[parameters];
+                for (int i = 0, rest = choice; i < parameters; i++, rest /= edges.length) {
+                    a[i] = edges[rest % edges.length];
+                }
+                both(name, a);
+                both("status");
+            }
+        }
+    }
+
+    private static void begin(String name) {
+        c.part("edges of " + name);
+        x = new RabbitList();
+        model = new Model();
+        calls = 0;
+        for (char letter : "r20,2;p1,4,3;b2,9,5;l3,7,6;h2,5,9;z1,5;z2,3;z1,9;".toCharArray()) {
+            both("feed", letter);
+        }
+        both("show");
+        both("taps", 1);
+        both("row", 0, 0, 13);
+        both("row", 1, 0, 1);
     }
 
     private static void step() {
