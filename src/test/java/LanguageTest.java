@@ -1,12 +1,16 @@
+import java.io.DataInputStream;
 import java.io.IOException;
+import java.io.InputStream;
 import java.nio.file.Files;
 import java.nio.file.Path;
 import java.util.ArrayList;
 import java.util.List;
+import java.util.Set;
+import java.util.TreeSet;
 import java.util.regex.Matcher;
 import java.util.regex.Pattern;
 
-/** The rules of LANGUAGE.md that a look at the source can hold; it is run from the root of the project. */
+/** The rules of LANGUAGE.md that a look at the source and at what is compiled can hold; run from the root of the project. */
 public final class LanguageTest {
     private static final Check c = new Check();
     private static final int LONGEST_METHOD = 60, MOST_PARAMETERS = 7, MOST_CLASSES = 12, MOST_FIELDS = 20;
@@ -14,11 +18,17 @@ public final class LanguageTest {
         "^\\s+(?:(?:public|private|static|final) )*(?:[A-Za-z\\[\\]]+ )?([A-Za-z]+)\\(([^)]*)\\) \\{$");
     private static final Pattern FIELD = Pattern.compile("^\\s+(?:(?:private|final) )*[A-Za-z\\[\\]]+ [a-zA-Z]+;$");
 
+    // Of what rule 4 lists, what the class uses; more of the list may come to stand here.
+    private static final Set<String> LIBRARY = Set.of(
+        "java/lang/Object.<init>", "java/lang/System.arraycopy", "java/lang/Math.min", "java/lang/Integer.bitCount",
+        "java/lang/String.indexOf");
+
     public static void main(String[] args) throws IOException {
         String source = Files.readString(Path.of("src/main/java/RabbitList.java"));
         String code = source.replaceAll("/\\*\\*.*?\\*/", "").replaceAll("//.*", "");
         usesNothingForbidden(code);
         staysSmall(code.split("\n"));
+        callsOnlyWhatIsListed();
         c.end();
     }
 
@@ -77,5 +87,53 @@ public final class LanguageTest {
         c.due("hidden methods were seen", hidden.size() > 60 ? 1 : 0, 1);
         hidden.retainAll(open);
         c.due("hidden ones with the name of a public one " + hidden, hidden.size(), 0);
+    }
+
+    private static void callsOnlyWhatIsListed() throws IOException {
+        c.part("rule 4");
+        Set<String> called = new TreeSet<>();
+        addMembers(RabbitList.class, called);
+        for (Class<?> inside : RabbitList.class.getDeclaredClasses()) {
+            addMembers(inside, called);
+        }
+        called.removeIf(member -> member.startsWith("RabbitList"));
+        for (String member : called) {
+            c.due("may be called: " + member, LIBRARY.contains(member) ? 1 : 0, 1);
+        }
+        c.due("calls of the library were seen", called.isEmpty() ? 0 : 1, 1);
+    }
+
+    // What a class file calls or reads stands in its table of constants (JVM specification, 4.4).
+    private static void addMembers(Class<?> one, Set<String> members) throws IOException {
+        try (InputStream bytes = one.getResourceAsStream(one.getName() + ".class");
+                DataInputStream in = new DataInputStream(bytes)) {
+            in.skipBytes(8);
+            int size = in.readUnsignedShort();
+            int[][] pairs = new int[size][];
+            boolean[] isMember = new boolean[size];
+            String[] texts = new String[size];
+            for (int i = 1; i < size; i++) {
+                int tag = in.readUnsignedByte();
+                switch (tag) {
+                    case 1 -> texts[i] = in.readUTF();
+                    case 3, 4 -> in.skipBytes(4);
+                    case 5, 6 -> {
+                        in.skipBytes(8);
+                        i++;
+                    }
+                    case 7, 8 -> pairs[i] = new int[] {in.readUnsignedShort()};
+                    case 9, 10, 11, 12 -> {
+                        pairs[i] = new int[] {in.readUnsignedShort(), in.readUnsignedShort()};
+                        isMember[i] = tag != 12;
+                    }
+                    default -> throw new IllegalStateException("a constant of tag " + tag + " in " + one.getName());
+                }
+            }
+            for (int i = 1; i < size; i++) {
+                if (isMember[i]) {
+                    members.add(texts[pairs[pairs[i][0]][0]] + "." + texts[pairs[pairs[i][1]][0]]);
+                }
+            }
+        }
     }
 }
